@@ -31,7 +31,6 @@ public final class VoiceNets {
     private static final int MOST_GO = 20;
     private static final int BYTES = 0;
     private static final int SHORTS = 1;
-    private static final int LONGS = 3;
     private static final int BOOLEANS = 4;
     private static final int MISSING = -1;
 
@@ -935,7 +934,7 @@ public final class VoiceNets {
             // One round more than there may be RULES: the ninth is refused where it begins.
             for (int r = 0; r <= Rules.MOST && current() != END; r++) {
                 if (!readRule()) {
-                    return -100 - tokenAt[next];
+                    return -100 - (next < tokens ? tokenAt[next] : size);
                 }
             }
             rules.becomeLike(draft);
@@ -1341,11 +1340,20 @@ public final class VoiceNets {
             if (isOver()) {
                 return 0;
             }
+            drift();
+            return cast(act);
+        }
+
+        /** The half of a TURN that is the same whatever the ACT is; cast() must follow. */
+        void drift() {
             for (int v = 0; v < count; v++) {
                 if (!isCaught(v)) {
                     place[v] = drifted(place[v], driftOf(v), turn);
                 }
             }
+        }
+
+        int cast(int act) {
             int worth = has(act - 1) && !isCaught(act - 1) ? worthOfNet(place[act - 1]) : 0;
             score += worth;
             turn++;
@@ -1390,7 +1398,8 @@ public final class VoiceNets {
 
         private final Sea sea;
         private final int[] now = new int[Sea.MOMENT];
-        private final int[][] moments = new int[MOST_PLAN][Sea.MOMENT];
+        private final int[][] ahead = new int[MOST_PLAN][Sea.MOMENT];
+        private final int[][] drifted = new int[MOST_PLAN][Sea.MOMENT];
         private final int[] acts = new int[MOST_PLAN];
         private int length;
         private int wanted;
@@ -1579,13 +1588,16 @@ public final class VoiceNets {
                 weigh(worth, casts);
                 return;
             }
-            sea.saveTo(moments[depth]);
+            sea.saveTo(ahead[depth]);
+            sea.drift();
+            sea.saveTo(drifted[depth]);
             for (int act = 0; act <= sea.count; act++) {
                 acts[depth] = act;
-                int more = sea.goBy(act);
+                int more = sea.cast(act);
                 walk(depth + 1, worth + more, act == 0 ? casts : casts + 1);
-                sea.comeBackTo(moments[depth]);
+                sea.comeBackTo(drifted[depth]);
             }
+            sea.comeBackTo(ahead[depth]);
         }
 
         /** PLANS come with the lesser ACT first, so that only a better one takes the FIRST's place. */
@@ -1618,10 +1630,12 @@ public final class VoiceNets {
             }
             boolean wantsMore = (depth & 1) == 0;
             int value = 0;
-            sea.saveTo(moments[depth]);
+            sea.saveTo(ahead[depth]);
+            sea.drift();
+            sea.saveTo(drifted[depth]);
             for (int act = 0; act <= sea.count; act++) {
-                int worth = sea.goBy(act) + valueFrom(depth + 1);
-                sea.comeBackTo(moments[depth]);
+                int worth = sea.cast(act) + valueFrom(depth + 1);
+                sea.comeBackTo(drifted[depth]);
                 if (act == 0 || (wantsMore ? worth > value : worth < value)) {
                     value = worth;
                     if (depth == 0) {
@@ -1629,6 +1643,7 @@ public final class VoiceNets {
                     }
                 }
             }
+            sea.comeBackTo(ahead[depth]);
             return value;
         }
 

@@ -247,9 +247,10 @@ public final class PromiseTest {
             "child if 1=1 and or 1=1 keep;", "child if 1=1 not keep;", "Child keep;", "child\tkeep;", "child if turnx < 1 keep;",
             "child if 1 < 2 < 3 keep;", "child if () keep;", "child if 1 <= 2 keep;", "child keep;;", "child if (1) < 2 keep;",
             "voice keep;voice keep;voice keep;voice keep;voice keep;voice keep;voice keep;voice keep; voice keep;",
-            "child if (1=1) (2=2) keep;", "\377", "child if 1=1 keep; gull if", "child if turn turn", "child if 00000 = 0 keep;"};
+            "child if (1=1) (2=2) keep;", "\377", "child if 1=1 keep; gull if", "child if turn turn", "child if 00000 = 0 keep;",
+            "child keepz;", "child if 1=1 or keep;", "child if 1=1 and keep;", "child if turn < keep;", "child if not keep;"};
         int[] at = {0, 5, 7, 6, 10, 12, 13, 15, 16, 12, 14, 12, 11, 9, 11, 0, 0, 9, 17, 13, 0, 5, 9, 15, 10, 12, 11, 11,
-            89, 15, 0, 26, 14, 9};
+            89, 15, 0, 26, 14, 9, 6, 16, 17, 16, 13};
         for (int i = 0; i < faulty.length; i++) {
             due(faulty[i], tell(x, faulty[i]), -100 - at[i]);
             due("the tape is used up", x.many(5), 0);
@@ -280,6 +281,15 @@ public final class PromiseTest {
         due("the first whose condition holds", x.voiceOf(1, 8), 0);
         x.change(1, 3, 8);
         due("as all is now", x.voiceOf(1, 8), 1);
+        tell(x, "child free;");
+        due("nothing is left of those before", x.voiceOf(1, 8), 0);
+        tell(x, "voice free;");
+        due("a voice is above all", x.voiceOf(1, 8), 1);
+        due("a child, too", x.voiceOf(0, 8), 1);
+        tell(x, "child if 1=2 and (2>1 or (1<2 or (2>1 or 1<2))) salt;");
+        due("brackets", x.voiceOf(0, 8), 0);
+        tell(x, "child if 1=1 or (2<1 and (2<1 or (1>2 and 2<1))) salt;");
+        due("brackets", x.voiceOf(0, 8), 2);
     }
 
     private static void promise13() {
@@ -387,6 +397,11 @@ public final class PromiseTest {
         q.voice(CHILD, 0, 5, 3);
         q.set(0, 1);
         due("into the net", q.placeFor(1), 5);
+        q.tide(0, 2);
+        q.change(0, 3, 14);
+        due("from the last place alone", q.placeFor(1), 15);
+        q.tide(0, 1);
+        q.change(0, 3, 8);
         due("to the child", q.placeFor(0), 4);
         q.change(1, 4, 1);
         due("caught, it drifts from nowhere", q.placeFor(1), 0);
@@ -453,6 +468,7 @@ public final class PromiseTest {
         same("plans", before, all(x));
         x.set(0, 1);
         due("fewer turns", x.best(4), 18);
+        due("first, with nothing asked ahead", five().ith(2, 0), 1);
         due("fewer acts", x.ith(4, 1), NONE);
         due("fewer ways", x.ways(4), 2);
         x.turn();
@@ -487,6 +503,7 @@ public final class PromiseTest {
         due("no bar", x.bars(3, 27), NONE);
         due("no bar of none", x.bars(0, 0), NONE);
         due("the least", x.bars(0, 26), 1);
+        due("the least of all", x.bars(0, 31), 0);
         due("no such voice", x.bars(1, 32), BAD);
         due("a set below 0", x.bars(1, LOW), BAD);
         due("n 5", x.bars(5, 0), BAD);
@@ -529,6 +546,13 @@ public final class PromiseTest {
         due("over: play", y.play(4), NONE);
         due("BAD stands ahead of NONE", y.play(0), BAD);
         due("nothing is worth anything", new VoiceNets().play(3), 0);
+        // the other one salts it for 12, lest it be kept for 18
+        VoiceNets w = one(CHILD, 0, 9, 0);
+        tell(w, "child if turn = 0 free; child if turn = 1 salt;");
+        due("play, with nothing asked ahead", w.play(3), 1);
+        due("1 and 12", w.game(3), 13);
+        due("1", w.game(2), 1);
+        due("1 and 12, and none is left", w.game(4), 13);
         // salt would catch for 3; the other one then can't keep it from 1 a turn
         VoiceNets z = one(GULL, 0, 9, 0);
         tell(z, "gull if turn < 1 free; gull salt;");
@@ -548,6 +572,7 @@ public final class PromiseTest {
         due("span -1", x.span(-1), BAD);
         due("first", x.report(0, 4, 4), 0);
         due("one of each kind", x.span(0), 5);
+        due("some fit: no liar", x.liar(), NONE);
         due("second", x.report(2, 6, 6), 1);
         due("a prayer alone", x.span(0), 1);
         due("kind", x.span(1), PRAYER);
@@ -569,6 +594,12 @@ public final class PromiseTest {
         due("BAD stands ahead of FULL", x.report(0, 1, 0), BAD);
         due("many", x.many(3), 6);
         due("forget", x.forget(), 6);
+        x.report(0, 5, 5);
+        x.report(0, 4, 4);
+        due("either: the least", x.liar(), 0);
+        x.report(0, 6, 6);
+        due("but for none", x.liar(), NONE);
+        due("three", x.forget(), 3);
         due("none", x.forget(), 0);
         due("all fit again", x.span(0), 80);
         // behind k turns counts from turn 0, whatever TURN and END are
@@ -620,6 +651,25 @@ public final class PromiseTest {
         due("over: none is worth 1", y.times(3, 1), 0);
         VoiceNets n = new VoiceNets();
         due("no voices: act 0", n.lot(), 0);
+        VoiceNets f = one(CHILD, 0, 9, 0);
+        tell(f, "child free;");
+        f.set(0, 16);
+        f.turn();
+        before = all(f);
+        int[] sums = {0, 0, 0};
+        z = 1;
+        for (int i = 0; i < 3; i++) {
+            for (int t = 1; t < 16; t++) {
+                z = z * 1103515245 + 12345;
+                sums[i] += (z >>> 16) % 2;
+            }
+        }
+        for (int v = 0; v < 16; v++) {
+            int enough = 0;
+            for (int sum : sums) if (sum >= v) enough++;
+            due("freed by lot " + v + " times", f.times(3, v), enough);
+        }
+        same("times behind a turn", before, all(f));
     }
 
     private static void promise35to38() {
@@ -664,6 +714,13 @@ public final class PromiseTest {
         due("no rows are right", x.judge(), 0);
         x.set(0, 2);
         due("fewer", x.prove(4), 1);
+        VoiceNets y = new VoiceNets();
+        due("rows without voices", y.prove(2), 2);
+        due("right", y.judge(), 0);
+        y.set(0, 1);
+        due("the second is over, though it is worth nothing", y.judge(), 2);
+        y.alterRow(0, 0, 1);
+        due("no act, though it is worth nothing", y.judge(), 1);
     }
 
     private static void promise39to41() {
@@ -788,10 +845,10 @@ public final class PromiseTest {
         due("is nothing", x.taken(1, 13), -11);
         due("nothing, whatever n is", x.shelf(0, 2, 99), 1);
         due("is nothing", x.taken(0, 0), -11);
-        x.shelf(2, 0, 4);
+        x.shelf(3, 0, 4);
         x.remake(4, CHILD);
-        due("of its kind now", x.taken(2, 1), 4);
-        due("no quarrel any more", x.taken(2, 2), -13);
+        due("of its kind now", x.taken(3, 1), 4);
+        due("no quarrel any more", x.taken(3, 2), -13);
         VoiceNets y = one(CHILD, 0, 1, 0);
         y.keep();
         y.voice(GULL, 0, 1, 0);
@@ -850,6 +907,10 @@ public final class PromiseTest {
         body(shelved(PRAYER, 1), 3, 5, -15, 51, 13, 30, 11, 50, 10, 12);
         body(shelved(GULL, 1), 2, 5, -15, 61, 40, 12);
         body(shelved(CHILD, 1), 0, 5, 21, 20, 10);
+        VoiceNets b = shelved(GULL, 1);
+        body(b, 3, 5, -15, 13, 60, 11, 10, 61, 40, 12);
+        b.change(1, 2, 3);
+        body(b, 2, 5, 2, 61, 40, 12, 10);
         body(shelved(CHILD, 2), 2, LOW, LOW, 12);
         g.sheet(0, 2, 3);
         g.shelf(1, 1, 0);
@@ -865,6 +926,44 @@ public final class PromiseTest {
         due("caught or not", g.act(0, 0, 5), 14);
         due("far", g.trace(HIGH), NONE);
         due("far", g.trace(LOW), NONE);
+    }
+
+    /** Behind a turn, so that score, places and those caught have something to come back to. */
+    private static void asked() {
+        VoiceNets x = five();
+        x.turn();
+        x.prove(2);
+        x.keep();
+        x.sheet(0, 0, 2);
+        x.write(0, 0, 5);
+        String before = all(x);
+        x.on(16);
+        x.when(4);
+        x.meshFor();
+        x.placeFor(4);
+        x.quarrels();
+        x.apart(-1);
+        x.choir(0);
+        same("the rest and quarrels", before, all(x));
+        x.best(4);
+        x.ith(4, 0);
+        x.ways(4);
+        x.haul(4, 31);
+        x.bars(4, 31);
+        same("plans", before, all(x));
+        x.game(4);
+        x.play(4);
+        same("the game", before, all(x));
+        x.span(0);
+        x.liar();
+        x.times(40, 5);
+        same("strange voices and lots", before, all(x));
+        x.prove(2);
+        x.judge();
+        x.wouldBe(0, 0, 2);
+        x.wouldBe(0, 0, 3);
+        same("rows and the host", before, all(x));
+        due("score", x.state(2), 18);
     }
 
     private static void promise48() {
@@ -968,6 +1067,7 @@ public final class PromiseTest {
         part = "42, 43"; promises42and43();
         part = "44, 45"; promises44and45();
         part = "46, 47"; promises46and47();
+        part = "what is asked"; asked();
         part = "48"; promise48();
         part = "49, 50"; promises49and50();
         System.out.println(wrong == 0 ? asked + " answers are as due" : wrong + " answers are not as due");
