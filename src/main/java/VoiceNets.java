@@ -410,10 +410,7 @@ public final class VoiceNets {
     }
 
     public int goAll(int sheet, int i, int n) {
-        if (!isSheet(sheet) || !isWithin(n, 0, MOST_GO)) {
-            return BAD;
-        }
-        int refusal = refusalAs(sheet, BYTES);
+        int refusal = refusalOfActs(sheet, n);
         if (refusal != 0) {
             return refusal;
         }
@@ -432,10 +429,7 @@ public final class VoiceNets {
     }
 
     public int wouldBe(int sheet, int i, int n) {
-        if (!isSheet(sheet) || !isWithin(n, 0, MOST_GO)) {
-            return BAD;
-        }
-        int refusal = refusalAs(sheet, BYTES);
+        int refusal = refusalOfActs(sheet, n);
         if (refusal != 0) {
             return refusal;
         }
@@ -458,6 +452,11 @@ public final class VoiceNets {
             worth += sea.goBy(act);
         }
         return worth;
+    }
+
+    /** What is refused of a SHEET whose items are to be ACTS, ahead of the items themselves; 0: nothing. */
+    private int refusalOfActs(int sheet, int n) {
+        return isSheet(sheet) && isWithin(n, 0, MOST_GO) ? refusalAs(sheet, BYTES) : BAD;
     }
 
     /** What the host refuses of a SHEET that is taken for a sort; 0: nothing. */
