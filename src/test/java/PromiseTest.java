@@ -365,6 +365,12 @@ public final class PromiseTest {
         y.set(0, 3);
         due("over ahead of it", y.when(1), NONE);
         due("till it is over", y.on(16), 2);
+        VoiceNets z = one(CHILD, 0, 4, 0);
+        z.set(0, 16);
+        tell(z, "child if turn < 15 free;");
+        due("in the last turn of all", z.when(0), 15);
+        due("sixteen turns", z.on(16), 15 + 8);
+        due("fifteen turns", z.on(15), 15);
     }
 
     private static void promises16and17() {
@@ -438,6 +444,11 @@ public final class PromiseTest {
         due("all pairs", z.quarrels(), 15);
         due("six nets", z.apart(-1), 6);
         due("the last", z.apart(5), 5);
+        VoiceNets o = one(CHILD, 2, 1, 0);
+        due("one voice, one net", o.apart(-1), 1);
+        due("its net", o.apart(0), 0);
+        due("a choir of one", o.choir(0), 1);
+        due("of the least strength", o.choir(1), 1);
         // taken by numbers into the least net that is free, this would need a third
         VoiceNets w = new VoiceNets();
         for (int p : new int[] {1, 4, 2, 3}) w.voice(CHILD, p, 1, 0);
@@ -670,6 +681,27 @@ public final class PromiseTest {
             due("freed by lot " + v + " times", f.times(3, v), enough);
         }
         same("times behind a turn", before, all(f));
+        f.anew();
+        z = 1;
+        int sum = 0;
+        for (int t = 0; t < 16; t++) {
+            z = z * 1103515245 + 12345;
+            sum += (z >>> 16) % 2;
+        }
+        f.seed(1);
+        due("all sixteen turns", f.times(1, sum), 1);
+        due("and no more", f.times(1, sum + 1), 0);
+        // a seed by which the last of the sixteen turns is one with a net
+        for (int seed = 2; (z >>> 16) % 2 == 0; seed++) {
+            z = seed;
+            sum = 0;
+            for (int t = 0; t < 16; t++) {
+                z = z * 1103515245 + 12345;
+                sum += (z >>> 16) % 2;
+            }
+            f.seed(seed);
+        }
+        due("with the last one", f.times(1, sum), 1);
     }
 
     private static void promise35to38() {
