@@ -1347,37 +1347,38 @@ public final class VoiceNets {
         void drift() {
             for (int v = 0; v < count; v++) {
                 if (!isCaught(v)) {
-                    place[v] = drifted(place[v], driftOf(v), turn);
+                    place[v] = drifted(place[v], thing(v).drifts(strength[v], turn), turn);
                 }
             }
         }
 
         int cast(int act) {
-            int worth = has(act - 1) && !isCaught(act - 1) ? worthOfNet(place[act - 1]) : 0;
-            score += worth;
-            turn++;
-            return worth;
-        }
-
-        private int worthOfNet(int at) {
-            int in = 0;
-            for (int v = 0; v < count; v++) {
-                if (!isCaught(v) && Math.abs(place[v] - at) <= 1) {
-                    if (isBursting(v)) {
-                        return 0;
-                    }
-                    in |= 1 << v;
-                }
-            }
+            int held = has(act - 1) && !isCaught(act - 1) ? heldByNetAt(place[act - 1]) : 0;
             int worth = 0;
             for (int v = 0; v < count; v++) {
-                if ((in >> v & 1) == 1 && strength[v] > mesh) {
+                if ((held >> v & 1) == 1) {
                     int will = willOf(v);
                     worth += worthOf(will, thing(v).price(strength[v]));
                     markCaught(v, will != FREE);
                 }
             }
+            score += worth;
+            turn++;
             return worth;
+        }
+
+        /** As a set: none may be done with before it is known that no other one bursts the net. */
+        private int heldByNetAt(int at) {
+            int held = 0;
+            for (int v = 0; v < count; v++) {
+                if (!isCaught(v) && Math.abs(place[v] - at) <= 1) {
+                    if (isBursting(v)) {
+                        return 0;
+                    }
+                    held |= strength[v] > mesh ? 1 << v : 0;
+                }
+            }
+            return held;
         }
 
         private static int worthOf(int will, int price) {
